@@ -864,7 +864,7 @@ public final class GuestLevels {
 
         /** Whether WRITE there is asked of a COPIED ONE that has that RIGHT. */
         boolean partsOnWrite(int page) {
-            return hasBit(copies, page) && table.gives(page, WRITE);
+            return hasBit(copies, page) && hasBit(table.rights[page], WRITE);
         }
 
         int framesLedTo() {
@@ -889,7 +889,7 @@ public final class GuestLevels {
             return value[frame];
         }
 
-        /** GIVEN a FRAME; the answer is the OUTER PAGES whose ENTRIES are others then (bits). */
+        /** GIVEN a FRAME; the answer: OUTER PAGES whose ENTRIES are others then, or gone (bits). */
         int give(int page) {
             int touched = 1 << page;
             int frame = lowestOutside(framesLedTo());
@@ -914,14 +914,13 @@ public final class GuestLevels {
             return touched;
         }
 
-        /** PARTED; the answer is as give's. */
-        int part(int page) {
-            if (!sharesFrame(page)) {
+        /** PARTED, but for the FRAME that it is GIVEN behind this, if it has no ENTRY any more. */
+        void part(int page) {
+            if (sharesFrame(page)) {
+                storeAway(page);
+            } else {
                 copies &= ~(1 << page);
-                return 1 << page;
             }
-            storeAway(page);
-            return give(page);
         }
 
         private boolean sharesFrame(int page) {
@@ -998,7 +997,7 @@ public final class GuestLevels {
 
         /** Nothing if there is no such PLACE, or it is NONE. */
         void goTo(int newPlace) {
-            if (within(newPlace, 0, size - 1)) {
+            if (newPlace >= 0 && newPlace < size) {
                 place = newPlace;
             }
         }
@@ -1185,7 +1184,7 @@ public final class GuestLevels {
         }
 
         void writeExit(int seer, int newReason, int newDetail, int newTime) {
-            int slot = allExits() % MOST_WRITTEN;
+            int slot = (exitsOf[HOST] + exitsOf[OUTER]) % MOST_WRITTEN;
             who[slot] = seer;
             reason[slot] = newReason;
             detail[slot] = newDetail;
@@ -1415,9 +1414,12 @@ public final class GuestLevels {
             return count;
         }
 
+        /** FOLDED has the ENTRY of an INNER PAGE that TABLES 1 and 2 lead to a FRAME. */
         private void fold(int page) {
-            int outerPage = inHand().toOuter.to[page];
-            folds.put(page, memory.table.to[outerPage], rightsOfBoth(page));
+            Table toOuter = inHand().toOuter;
+            int outerPage = toOuter.to[page];
+            int rights = toOuter.rights[page] & memory.rightsGiven(outerPage);
+            folds.put(page, memory.table.to[outerPage], rights);
         }
 
         /** JOINED: how many FRAMES came to be FREE. */
@@ -1479,11 +1481,12 @@ public final class GuestLevels {
             }
             hostSees(NO_FOLDED_ENTRY, detail);
             int outerPage = toOuter.to[page];
+            if (way == WRITE && memory.partsOnWrite(outerPage)) {
+                memory.part(outerPage);
+                unfold(1 << outerPage);
+            }
             if (!memory.table.has(outerPage)) {
                 unfold(memory.give(outerPage));
-            }
-            if (way == WRITE && memory.partsOnWrite(outerPage)) {
-                unfold(memory.part(outerPage));
             }
             if (!memory.table.gives(outerPage, way)) {
                 return REFUSED;
@@ -1501,13 +1504,16 @@ public final class GuestLevels {
             int detail = 64 + 4 * page + way;
             if (!memory.table.has(page)) {
                 hostSees(NO_FOLDED_ENTRY, detail);
-                unfold(memory.give(page));
             } else if (way == WRITE && memory.partsOnWrite(page)) {
                 hostSees(COPY_WRITTEN, detail);
-                unfold(memory.part(page));
+                memory.part(page);
+                unfold(1 << page);
             } else if (!memory.table.gives(page, way)) {
                 hostSees(NO_RIGHT, detail);
                 return REFUSED;
+            }
+            if (!memory.table.has(page)) {
+                unfold(memory.give(page));
             }
             return memory.touchFrame(memory.table.to[page], way, value);
         }
@@ -1582,16 +1588,16 @@ public final class GuestLevels {
 
         /** When the i-th TIMER is DUE; CLOCKS never go backward, so halving finds it. NONE: never. */
         int dueTime(int i) {
-            int level = timers.level[i];
+            int clock = timers.level[i];
             int deadline = timers.deadline[i];
             int least = time + 1;
             int most = LAST_TIME;
-            if (least > most || clockAt(level, most) < deadline) {
+            if (least > most || clockAt(clock, most) < deadline) {
                 return NONE;
             }
             for (int halvings = 0; halvings < 32 && least < most; halvings++) {
                 int middle = (least + most) / 2;
-                if (clockAt(level, middle) >= deadline) {
+                if (clockAt(clock, middle) >= deadline) {
                     most = middle;
                 } else {
                     least = middle + 1;
@@ -1839,7 +1845,10 @@ public final class GuestLevels {
 
         void push(Machine machine) {
             int slot = (start + size) % MOST_STEPS;
-            write(slot, machine);
+            if (rows[slot] == null) {
+                rows[slot] = new Machine();
+            }
+            rows[slot].copyFrom(machine);
             if (size < MOST_STEPS) {
                 size++;
             } else {
@@ -1860,20 +1869,13 @@ public final class GuestLevels {
 
         void copyFrom(Past other) {
             start = 0;
-            size = other.size;
-            for (int i = 0; i < size; i++) {
+            size = 0;
+            for (int i = 0; i < other.size; i++) {
                 Machine row = other.rows[(other.start + i) % MOST_STEPS];
                 if (row != null) {
-                    write(i, row);
+                    push(row);
                 }
             }
-        }
-
-        private void write(int slot, Machine machine) {
-            if (rows[slot] == null) {
-                rows[slot] = new Machine();
-            }
-            rows[slot].copyFrom(machine);
         }
     }
 }
