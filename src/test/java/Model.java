@@ -523,7 +523,7 @@ final class Model {
         switch (call) {
             case "undo":
                 if (past.isEmpty()) return NONE;
-                s = past.removeLast();
+                s = past.removeLast().copy();
                 return past.size();
             case "image":
                 image = s.copy();

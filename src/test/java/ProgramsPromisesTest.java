@@ -265,6 +265,17 @@ public final class ProgramsPromisesTest {
         Due.is("25 its PLACE is the one that is TRAPPED", x.is(12), 2);
         x.run(1);
         Due.is("25 done then", x.heard(-1), 1);
+        x.run(2);
+        Due.is("27 PLACE", x.is(12), 1);
+        x.act(2, 9, 0, 0);
+        x.act(2, 3, 1, 0);
+        x.wipe(1);
+        x.trapPlace(4);
+        x.clear(0, 6);
+        x.run(2);
+        Due.is("25 TRAPPED again", x.is(12), 4);
+        x.run(1);
+        Due.is("25 back to that PLACE", x.is(12), 2);
         x.wipe(2);
         x.act(2, 9, 0, 0);
         x.act(2, 4, 0, 0);
@@ -363,6 +374,10 @@ public final class ProgramsPromisesTest {
         x.run(6);
         Due.is("53 TAKEN", x.taken(2), 5);
         Due.is("62 none", x.waits(2), -1);
+        x.timer(2, x.is(1) + 201, 9);
+        Due.is("62 beyond 200", x.waits(2), -1);
+        x.pass(1);
+        Due.is("62 at 200", x.waits(2), 200);
     }
 
     private static void roomiest() {
@@ -382,6 +397,15 @@ public final class ProgramsPromisesTest {
         Due.is("63 nothing is changed", x.is(2), 6);
         x.entry(0, 3, 0, 7);
         Due.is("63 three PAGES", x.roomiest(100), 3);
+        GuestLevels y = new GuestLevels();
+        for (int p = 0; p < 16; p++) {
+            y.entry(1, p, p, 7);
+            y.entry(2, p, p % 10, 7);
+            y.act(2, 0, p, 0);
+        }
+        y.enter();
+        for (int p = 0; p < 16; p++) y.entry(0, p, p, 7);
+        Due.is("63 sixteen PAGES", y.roomiest(40), 16);
     }
 
     private static void roomiestTellsRoomNow() {

@@ -22,6 +22,7 @@ public final class RandomRunsTest {
     private final Model model = new Model();
     private final List<String> calls = new ArrayList<>();
     private int wrong;
+    private int commonPages;
 
     private RandomRunsTest(long seed) {
         random = new Random(seed);
@@ -32,7 +33,7 @@ public final class RandomRunsTest {
         int wrong = 0;
         for (int seed = 1; seed <= runs && wrong < 5; seed++) {
             RandomRunsTest run = new RandomRunsTest(seed);
-            run.go(100 + seed % 4 * 100, seed % 3);
+            run.go(100 + seed % 4 * 100, seed % 3, seed % 5 < 2);
             if (run.wrong > 0) {
                 System.out.println("seed " + seed + " calls: " + run.calls);
             }
@@ -42,7 +43,9 @@ public final class RandomRunsTest {
         if (wrong != 0) System.exit(1);
     }
 
-    private void go(int count, int kind) {
+    /** Kind 0: without PROGRAMS at first, 2: much is run. With many PAGES FRAMES run short. */
+    private void go(int count, int kind, boolean manyPages) {
+        commonPages = manyPages ? 16 : 4;
         if (kind > 0) tellPrograms();
         for (int i = 0; i < count && wrong == 0; i++) {
             tellOne(kind);
@@ -58,7 +61,7 @@ public final class RandomRunsTest {
         for (int i = 0; i < 6; i++) {
             act(1);
             if (i % 2 == 0) call("act", 1, 6, 0, 0);
-            if (i % 3 == 0) call("act", 1, 9, random.nextInt(5), 0);
+            if (i % 3 == 0) call("act", 1, 9, random.nextInt(commonPages), 0);
         }
         for (int reason : new int[] {1, 4, 6, 8}) call("handler", reason, random.nextInt(12), 0, 0);
         call("trapPlace", random.nextInt(10), 0, 0, 0);
@@ -67,15 +70,15 @@ public final class RandomRunsTest {
     private void act(int guest) {
         int act = random.nextInt(guest == 1 ? 13 : 11);
         boolean two = act == (guest == 1 ? 7 : 6);
-        int a = act == 11 || act == 3 ? random.nextInt(3) : random.nextInt(5);
+        int a = act == 11 || act == 3 ? random.nextInt(3) : random.nextInt(commonPages);
         boolean none = act == 4 || act == 5 || act == (guest == 1 ? 6 : 7) || act == (guest == 1 ? 10 : 9);
-        int b = act == 1 ? random.nextInt(3) * 11 : two ? random.nextInt(5) : 0;
+        int b = act == 1 ? random.nextInt(3) * 11 : two ? random.nextInt(commonPages) : 0;
         call("act", guest, act, none && random.nextInt(10) > 0 ? 0 : a, b);
     }
 
     private int page() {
         int kind = random.nextInt(20);
-        return kind == 0 ? random.nextInt(20) - 2 : kind < 5 ? random.nextInt(16) : random.nextInt(4);
+        return kind == 0 ? random.nextInt(20) - 2 : random.nextInt(kind < 5 ? 16 : commonPages);
     }
 
     private void tellOne(int kind) {

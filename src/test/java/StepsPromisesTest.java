@@ -1,3 +1,6 @@
+import java.util.ArrayList;
+import java.util.List;
+
 /** Promises 26, 27, 67 to 70: STEPS that are taken back, figures, THE IMAGE. */
 public final class StepsPromisesTest {
     private StepsPromisesTest() {
@@ -9,6 +12,7 @@ public final class StepsPromisesTest {
         theLatestTwenty();
         undoTakesAllBack();
         undoOfASwitch();
+        allAnswersAreAsAhead();
         everyStep();
         asking();
         is();
@@ -89,6 +93,85 @@ public final class StepsPromisesTest {
         Due.is("26 IN HAND", x.is(17), 0);
         Due.is("26 FOLDED", x.told(3, 0, 0), 0);
         Due.is("26 TABLE 1", x.told(1, 0, 0), 0);
+    }
+
+    private static final String[][] ASKED = {{"is", "18"}, {"told", "4", "16", "2"}, {"folded", "16"},
+        {"frame", "10"}, {"handled", "10"}, {"stored", "16"}, {"backed", "16"}, {"copied"}, {"trapped", "3"},
+        {"heard", "24"}, {"changed"}, {"walk", "16", "3"}, {"given", "16"}, {"lazy"}, {"aliases", "10"},
+        {"free"}, {"wanted", "3"}, {"exit", "24", "4"}, {"exits", "10"}, {"pending", "3"}, {"service", "3"},
+        {"putBy", "3", "7"}, {"spent", "4"}, {"seenOf", "8", "3"}, {"isOpen", "3"}, {"taken", "3"},
+        {"longest", "3"}, {"pendingFor", "3", "16"}, {"clock", "3"}, {"timed", "12", "4"}, {"first"},
+        {"program", "3", "24", "3"}, {"till"}, {"waits", "3"}, {"plainHeard", "9"}, {"share"}};
+
+    private static List<Long> allAnswers(GuestLevels x) {
+        List<Long> answers = new ArrayList<>();
+        for (String[] ask : ASKED) {
+            int[] most = {1, 1, 1};
+            for (int i = 1; i < ask.length; i++) most[i - 1] = Integer.parseInt(ask[i]);
+            for (int a = 0; a < most[0]; a++) {
+                for (int b = 0; b < most[1]; b++) {
+                    for (int c = 0; c < most[2]; c++) answers.add(Calls.ask(x, ask[0], a, b, c));
+                }
+            }
+        }
+        for (int what = 0; what < 18; what++) answers.add((long) x.foretold(7, what));
+        return answers;
+    }
+
+    /** An object in which little is as at first. */
+    private static GuestLevels used() {
+        GuestLevels x = new GuestLevels();
+        x.touch(3, 1, 22);
+        for (int p = 0; p < 12; p++) x.touch(p, 1, 11 * (p / 2));
+        x.join();
+        for (int p = 0; p < 8; p++) x.entry(1, p, p + 2, 7);
+        int[][] acts = {{1, 6, 0, 0}, {1, 9, 2, 0}, {1, 1, 14, 5}, {1, 8, 3, 0}, {1, 6, 0, 0}, {2, 0, 1, 0},
+            {2, 8, 4, 0}, {2, 9, 0, 0}, {2, 1, 2, 77}, {2, 6, 2, 9}, {2, 4, 0, 0}, {2, 3, 5, 0}};
+        for (int[] act : acts) x.act(act[0], act[1], act[2], act[3]);
+        for (int reason : new int[] {1, 4, 6, 8}) x.handler(reason, reason / 2);
+        x.trapPlace(1);
+        x.want(0, 8);
+        x.want(1, 32);
+        x.slice(6);
+        x.room(3);
+        x.scale(1, 20, 4);
+        x.scale(2, 9, -6);
+        x.timer(0, 30, 4);
+        x.timer(1, 90, 5);
+        x.timer(2, 5, 6);
+        x.send(1, 2);
+        x.send(2, 1);
+        x.run(25);
+        x.open(1, true);
+        x.send(2, 7);
+        x.run(4);
+        return x;
+    }
+
+    private static void allAnswersAreAsAhead() {
+        String[] tellings = {"entry 2 4 7 7", "entry 1 2 9 3", "clear 2 5", "clear 1 2", "room 1", "foldAhead",
+            "join", "trapPlace 4", "want 0 255", "want 1 255", "touch 15 1 500", "touch 13 0 0", "event 3",
+            "enter", "send 1 14", "send 2 14", "open 1 0", "open 2 0", "finish", "hand 1", "hand 2",
+            "scale 1 64 1", "scale 2 64 1", "timer 2 900 9", "cancel 0", "handler 8 0", "slice 50", "forget",
+            "pass 30", "act 1 5 0 0", "act 2 5 0 0", "wipe 1", "wipe 2", "run 1", "run 40", "run 200"};
+        for (String telling : tellings) {
+            GuestLevels x = used();
+            for (int i = 0; i < 4 && x.is(0) == 2; i++) x.pass(2);
+            List<Long> ahead = allAnswers(x);
+            int steps = x.steps();
+            x.image();
+            String[] words = telling.split(" ");
+            int[] n = new int[4];
+            for (int i = 1; i < words.length; i++) n[i - 1] = Integer.parseInt(words[i]);
+            Calls.tell(x, words[0], n[0], n[1], n[2], n[3]);
+            Due.is("26 " + telling + " is taken back", x.undo(), Math.min(steps, 19));
+            Due.yes("26 all is as ahead of " + telling, ahead.equals(allAnswers(x)));
+            Calls.tell(x, words[0], n[0], n[1], n[2], n[3]);
+            x.pass(1);
+            x.back();
+            Due.yes("69 all is so again behind " + telling, ahead.equals(allAnswers(x)));
+            Due.is("69 STEPS", x.steps(), steps);
+        }
     }
 
     private static void everyStep() {

@@ -15,6 +15,9 @@ public final class TablesPromisesTest {
         joinManyAndOrder();
         partedAlone();
         partedWithoutFree();
+        partedUnfolds();
+        swappedIsGone();
+        swappedCopies();
         copiesAreFoldedWithoutWrite();
         tellingEndsACopy();
         told();
@@ -113,6 +116,7 @@ public final class TablesPromisesTest {
         x.send(1, 0);
         Due.no("3 TABLE 0 in LEVEL 1", x.clear(0, 1));
         Due.yes("3 TABLE 1 in LEVEL 1", x.clear(1, 1));
+        Due.is("3 gone", x.told(1, 1, 0), -1);
         Due.is("3 FOLDED of page 1", x.told(3, 1, 0), -1);
 
         GuestLevels y = new GuestLevels();
@@ -214,14 +218,17 @@ public final class TablesPromisesTest {
 
     private static void partedAlone() {
         GuestLevels x = new GuestLevels();
-        x.touch(0, 1, 5);
-        x.touch(1, 1, 5);
+        x.entry(2, 0, 4, 7);
+        x.entry(2, 1, 5, 7);
+        x.entry(2, 2, 8, 7);
+        x.touch(1, 1, 44);
         x.join();
         x.clear(2, 0);
         Due.is("6 page 1 is COPIED yet", x.copied(), 2);
         int swapped = x.is(8);
         Due.is("9 WRITE of a COPIED ONE that is alone", x.touch(1, 1, 6), 6);
-        Due.is("9 its FRAME", x.told(2, 1, 0), 0);
+        Due.is("9 its FRAME", x.told(2, 1, 0), 4);
+        Due.is("9 by when it came as ahead", x.backed(0), 1);
         Due.is("9 COPIED no more", x.copied(), 0);
         Due.is("9 REASON 9", x.exits(9), 1);
         Due.is("9 SWAPPED", x.is(8), swapped);
@@ -241,7 +248,70 @@ public final class TablesPromisesTest {
         Due.is("9 the FREE FRAME", x.told(2, 9, 0), 0);
         Due.is("9 STORED no more", x.stored(9), -1);
         Due.is("9 the other's VALUE stays", x.frame(4), 104);
+        Due.is("9 the one that is gone gives no RIGHT", x.told(2, 0, 1), -1);
+        Due.is("9 page 4 is COPIED yet", x.copied(), 16);
         Due.is("9 it came latest", x.backed(9), 9);
+    }
+
+    /** FOLDED has none of INNER PAGES that lead to a PARTED one, whoever WRITES. */
+    private static void partedUnfolds() {
+        for (int level = 1; level <= 2; level++) {
+            GuestLevels x = new GuestLevels();
+            x.entry(2, 0, 4, 7);
+            x.entry(2, 1, 5, 7);
+            x.touch(1, 1, 44);
+            x.join();
+            x.clear(2, 0);
+            x.entry(1, 6, 1, 7);
+            x.entry(1, 7, 1, 7);
+            x.entry(1, 8, 2, 7);
+            x.entry(2, 2, 9, 7);
+            Due.is("5 FOLDED", x.foldAhead(), 3);
+            if (level == 2) {
+                x.enter();
+                x.entry(0, 0, 7, 7);
+            }
+            Due.is("9 WRITE", x.touch(level == 2 ? 0 : 1, 1, 3), 3);
+            Due.is("9 FOLDED of the other INNER PAGE", x.told(3, 6, 0), -1);
+            Due.is("9 FOLDED of the one that is TOUCHED", x.told(3, 7, 1), level == 2 ? 7 : -1);
+            Due.is("9 FOLDED of one that leads elsewhere", x.told(3, 8, 0), 9);
+        }
+    }
+
+    /** A SWAPPED one leads nowhere. */
+    private static void swappedIsGone() {
+        GuestLevels x = new GuestLevels();
+        for (int p = 0; p < 10; p++) x.touch(p, 1, 40 + p);
+        x.entry(1, 5, 0, 7);
+        x.touch(12, 0, 0);
+        x.enter();
+        x.entry(0, 3, 5, 7);
+        Due.is("38 walk", x.walk(3, 0), -4);
+        Due.is("39 given", x.given(3), 0);
+        Due.is("40 lazy", x.lazy(), 0);
+        Due.is("41 aliases", x.aliases(0), 0);
+        Due.is("26 undo of TABLE 0 told, enter, touch", x.undo() + x.undo() + x.undo(), 11 + 12 + 13);
+        Due.is("32 STORED no more", x.stored(0), -1);
+        Due.is("27 SWAPPED no more", x.is(8), 0);
+    }
+
+    /** The COPIED ONES themselves came longest ago: they go, and are no COPIED ONES then. */
+    private static void swappedCopies() {
+        GuestLevels x = new GuestLevels();
+        for (int p = 0; p < 10; p++) x.touch(p, 1, 100 + p / 3);
+        Due.is("6 all but the last by threes", x.join(), 6);
+        for (int p = 0; p < 3; p++) x.entry(1, p, p, 7);
+        Due.is("5 FOLDED", x.foldAhead(), 3);
+        for (int p = 10; p < 16; p++) x.touch(p, 1, p);
+        Due.is("9 none is FREE", x.is(4), 0);
+        Due.is("9 WRITE by page 5", x.touch(5, 1, 1), 1);
+        Due.is("27 pages 0, 1, 2 had to go", x.is(8), 3);
+        Due.is("32 STORED", x.stored(2), 100);
+        Due.is("34 COPIED yet", x.copied(), 0b111011000);
+        Due.is("29 FOLDED no more", x.is(3), 0);
+        Due.is("9 in their FRAME", x.told(2, 5, 0), 0);
+        Due.is("9 page 1 comes back", x.touch(1, 0, 0), 100);
+        Due.is("34 not as a COPIED ONE", x.copied() & 2, 0);
     }
 
     private static void copiesAreFoldedWithoutWrite() {

@@ -185,7 +185,11 @@ public final class TimePromisesTest {
         Due.is("22 above 99999", x.pass(200), -1);
         Due.is("25 above 99999", x.run(200), -1);
         Due.is("60 above 99999", x.foretold(200, 1), -1);
-        Due.is("22 to 99999", x.pass(199), 0);
+        Due.is("22 to 99998", x.pass(198), 0);
+        x.timer(0, 5, 5);
+        Due.is("57 DUE at 99999", x.timed(0, 3), 99999);
+        x.cancel(0);
+        Due.is("22 to 99999", x.run(1), 0);
         Due.is("27 the last TIME", x.is(1), 99999);
         Due.is("22 one more", x.pass(1), -1);
         Due.is("25 one more", x.run(1), -1);
