@@ -18,6 +18,7 @@ public final class ProgramsPromisesTest {
         runDealsOut();
         program();
         foretold();
+        foretoldByAge();
         till();
         waits();
         roomiest();
@@ -333,6 +334,21 @@ public final class ProgramsPromisesTest {
         Due.is("60 n 201", x.foretold(201, 1), -1);
         x.run(5);
         Due.is("25 as FORETOLD", x.is(7), 2);
+    }
+
+    /** Which ENTRY came longest ago is so in what is FORETOLD, too. */
+    private static void foretoldByAge() {
+        GuestLevels x = new GuestLevels();
+        x.room(2);
+        for (int p = 0; p < 4; p++) x.entry(1, p, p, 7);
+        x.enter();
+        for (int p = 0; p < 4; p++) x.entry(0, p, p, 7);
+        for (int i = 0; i < 10; i++) x.touch(i % 4, 0, 0);
+        Due.is("29 FOLDED", x.folded(0), 0);
+        for (int p : new int[] {2, 1, 3, 2}) x.act(2, 0, p, 0);
+        Due.is("60 EXITS by PAGES 2 and 3", x.foretold(4, 5) - x.is(5), 2);
+        x.run(4);
+        Due.is("29 FOLDED then", x.folded(0), 2);
     }
 
     private static void till() {

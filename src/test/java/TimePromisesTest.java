@@ -226,6 +226,12 @@ public final class TimePromisesTest {
         for (int i = 0; i < 4; i++) Due.is("22 order", x.exit(i, 2), due[i]);
         Due.is("47 outer", x.pending(1), 16);
         Due.is("47 inner", x.pending(2), 4);
+        for (int i = 0; i < 12; i++) x.timer(1, -i, i);
+        Due.is("22 twelve at once", x.pass(20), 12);
+        Due.is("57 none is left", x.timed(-1, 0), 0);
+        Due.is("47 all", x.pending(1), 4095);
+        Due.is("55 at once", x.pendingFor(1, 11), 19);
+        Due.is("55 and the first", x.pendingFor(1, 0), 19);
     }
 
     private static void timed() {
