@@ -676,8 +676,7 @@ public final class GuestLevels {
             case 3: return EVENTS - 1;
             case 4: case 5: return 0;
             case 6: return guest == INNER ? PAGES - 1 : 0;
-            case 7: return guest == OUTER ? PAGES - 1 : 0;
-            case 9: return guest == OUTER ? PAGES - 1 : 0;
+            case 7: case 9: return guest == OUTER ? PAGES - 1 : 0;
             case 10: return guest == OUTER ? 0 : NONE;
             case 11: return guest == OUTER ? INNER_GUESTS - 1 : NONE;
             default: return NONE;
@@ -696,9 +695,14 @@ public final class GuestLevels {
         return (bits >> k & 1) != 0;
     }
 
-    /** NONE without any bit. */
-    private static int greatestBit(int bits) {
-        return 31 - Integer.numberOfLeadingZeros(bits);
+    /** The greatest of these VECTORS (bits). NONE: there is none. */
+    private static int greatestOf(int vectors) {
+        for (int vector = VECTORS - 1; vector >= 0; vector--) {
+            if ((vectors >> vector & 1) != 0) {
+                return vector;
+            }
+        }
+        return NONE;
     }
 
     /** The lowest FRAME that isn't among these (bits). NONE: all are. */
@@ -1037,8 +1041,11 @@ public final class GuestLevels {
 
         /** The VECTOR that can be TAKEN now. NONE: none can. */
         int ready() {
-            int greatest = greatestBit(waiting);
-            return opened && greatest > greatestBit(serving) ? greatest : NONE;
+            if (!opened || waiting == 0) {
+                return NONE;
+            }
+            int greatest = greatestOf(waiting);
+            return greatest > greatestOf(serving) ? greatest : NONE;
         }
 
         /** TAKEN; the answer: for how much TIME it was PENDING. */
@@ -1050,7 +1057,7 @@ public final class GuestLevels {
 
         /** ENDED: the VECTOR. NONE: none is IN SERVICE. */
         int endService() {
-            int greatest = greatestBit(serving);
+            int greatest = greatestOf(serving);
             if (greatest != NONE) {
                 serving &= ~(1 << greatest);
             }

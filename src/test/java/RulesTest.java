@@ -40,7 +40,7 @@ public final class RulesTest {
     private static final Set<String> LIBRARY = Set.of("java.util.Arrays.fill",
         "java.lang.System.arraycopy", "java.lang.Math.max", "java.lang.Math.min",
         "java.lang.Math.floorDiv", "java.lang.Integer.bitCount",
-        "java.lang.Integer.numberOfLeadingZeros", "java.lang.Object.<init>");
+        "java.lang.Object.<init>");
     private static int wrong;
 
     private RulesTest() {
