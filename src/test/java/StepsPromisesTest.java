@@ -25,7 +25,7 @@ public final class StepsPromisesTest {
     }
 
     private static void none() {
-        Due.is("constant", GuestLevels.NONE, -1);
+        Due.is("1 NONE", GuestLevels.NONE, -1);
         GuestLevels x = new GuestLevels();
         Due.is("26 none", x.undo(), -1);
         Due.is("70 none", x.steps(), 0);
