@@ -1,15 +1,18 @@
 /** The calls of GuestLevels by their names, a boolean counting 1 or 0. */
 final class Calls {
-    /** Calls that may be STEPS, with how many arguments they take; and undo, image, back. */
-    static final String[] TELLING = {"entry", "clear", "room", "foldAhead", "join", "trapPlace",
-        "want", "touch", "event", "enter", "send", "open", "finish", "hand", "scale", "timer",
-        "cancel", "handler", "slice", "forget", "pass", "act", "wipe", "run", "undo", "image", "back"};
-
     private Calls() {
     }
 
     private static long bool(boolean is) {
         return is ? 1 : 0;
+    }
+
+    /** A call with its arguments behind it, as "entry 1 0 0 7". */
+    static long tell(GuestLevels x, String words) {
+        String[] word = words.split(" ");
+        int[] n = new int[4];
+        for (int i = 1; i < word.length; i++) n[i - 1] = Integer.parseInt(word[i]);
+        return tell(x, word[0], n[0], n[1], n[2], n[3]);
     }
 
     static long tell(GuestLevels x, String call, int a, int b, int c, int d) {

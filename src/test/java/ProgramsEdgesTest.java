@@ -524,7 +524,7 @@ public final class ProgramsEdgesTest {
             "wipe 1", "wipe 2", "run 200"};
         for (String call : told) {
             GuestLevels x = new GuestLevels();
-            tell(x, call);
+            Calls.tell(x, call);
             Due.is("70 a STEP: " + call, x.steps(), 1);
             Due.is("26 taken back: " + call, x.undo(), 0);
         }
@@ -541,13 +541,6 @@ public final class ProgramsEdgesTest {
         Due.is("70 ENDED", y.steps(), 7);
     }
 
-    private static void tell(GuestLevels x, String call) {
-        String[] words = call.split(" ");
-        int[] n = new int[4];
-        for (int i = 1; i < words.length; i++) n[i - 1] = Integer.parseInt(words[i]);
-        Calls.tell(x, words[0], n[0], n[1], n[2], n[3]);
-    }
-
     /** What is refused is no STEP, and what is asked is none. */
     private static void stepsNot() {
         String[] refused = {"entry 0 0 0 7", "entry 1 16 0 7", "entry 2 0 10 7", "entry 2 0 0 8", "clear 2 0",
@@ -558,7 +551,7 @@ public final class ProgramsEdgesTest {
             "pass 0", "pass 201", "act 1 12 0 0", "act 2 0 16 0", "wipe 0", "wipe 3", "run 0", "run 201"};
         for (String call : refused) {
             GuestLevels x = new GuestLevels();
-            tell(x, call);
+            Calls.tell(x, call);
             Due.is("70 no STEP: " + call, x.steps(), 0);
         }
         GuestLevels y = new GuestLevels();

@@ -1,10 +1,15 @@
 import java.util.ArrayList;
+import java.util.Arrays;
 import java.util.List;
 import java.util.Random;
 
-/** Random runs of calls, wrong arguments among them: the class answers as the Model does. */
+/**
+ * Random runs of calls, wrong arguments among them: the class answers as the Model does.
+ * No object is used for more than 512 calls: what is to be asked beyond that, replicas are asked.
+ */
 public final class RandomRunsTest {
-    /** Asked after every call. {name, least and most of each argument} */
+    private static final int MOST_CALLS = 512;
+    /** {name, least and most of each argument} */
     private static final Object[][] CHEAP = {
         {"is", -1, 18}, {"told", -1, 4, -1, 16, -1, 2}, {"folded", -1, 16}, {"frame", -1, 10},
         {"handled", -1, 10}, {"stored", -1, 16}, {"backed", -1, 16}, {"copied"}, {"trapped", -1, 3},
@@ -18,9 +23,11 @@ public final class RandomRunsTest {
         "plainTraps", "plainHeard", "due", "first"};
 
     private final Random random;
-    private final GuestLevels x = new GuestLevels();
     private final Model model = new Model();
-    private final List<String> calls = new ArrayList<>();
+    private final List<String> names = new ArrayList<>();
+    private final List<int[]> arguments = new ArrayList<>();
+    private GuestLevels x = new GuestLevels();
+    private int used;
     private int wrong;
     private int commonPages;
 
@@ -29,13 +36,13 @@ public final class RandomRunsTest {
     }
 
     public static void main(String[] args) {
-        int runs = args.length > 0 ? Integer.parseInt(args[0]) : 400;
+        int runs = args.length > 0 ? Integer.parseInt(args[0]) : 1500;
         int wrong = 0;
         for (int seed = 1; seed <= runs && wrong < 5; seed++) {
             RandomRunsTest run = new RandomRunsTest(seed);
-            run.go(100 + seed % 4 * 100, seed % 3, seed % 5 < 2);
+            run.go(30 + seed % 7 * 45, seed % 3, seed % 5 < 2);
             if (run.wrong > 0) {
-                System.out.println("seed " + seed + " calls: " + run.calls);
+                System.out.println("seed " + seed + " calls: " + run.calls());
             }
             wrong += run.wrong;
         }
@@ -47,9 +54,9 @@ public final class RandomRunsTest {
     private void go(int count, int kind, boolean manyPages) {
         commonPages = manyPages ? 16 : 4;
         if (kind > 0) tellPrograms();
-        for (int i = 0; i < count && wrong == 0; i++) {
+        for (int i = 0; i < count && names.size() < count && wrong == 0; i++) {
             tellOne(kind);
-            if (random.nextInt(8) == 0) askAll();
+            for (int asked = random.nextInt(4); asked > 0; asked--) askOne();
             if (random.nextInt(4) == 0) askDear();
         }
         askAll();
@@ -141,14 +148,47 @@ public final class RandomRunsTest {
     }
 
     private void call(String name, int a, int b, int c, int d) {
-        calls.add(name + "(" + a + "," + b + "," + c + "," + d + ")");
-        compare(calls.get(calls.size() - 1), Calls.tell(x, name, a, b, c, d), model.tell(name, a, b, c, d));
+        if (used == MOST_CALLS) replace();
+        names.add(name);
+        arguments.add(new int[] {a, b, c, d});
+        used++;
+        compare(name + "(" + a + "," + b + "," + c + "," + d + ")",
+                Calls.tell(x, name, a, b, c, d), model.tell(name, a, b, c, d));
+    }
+
+    /** A new object that was told the same. */
+    private void replace() {
+        x = new GuestLevels();
+        for (int i = 0; i < names.size(); i++) {
+            int[] n = arguments.get(i);
+            Calls.tell(x, names.get(i), n[0], n[1], n[2], n[3]);
+        }
+        used = names.size();
+    }
+
+    private String calls() {
+        StringBuilder text = new StringBuilder();
+        for (int i = 0; i < names.size(); i++) text.append(names.get(i)).append(Arrays.toString(arguments.get(i))).append(' ');
+        return text.toString();
+    }
+
+    private static int[] ranges(Object[] ask) {
+        int[] range = new int[6];
+        for (int i = 1; i < ask.length; i++) range[i - 1] = (Integer) ask[i];
+        return range;
+    }
+
+    private void askOne() {
+        Object[] ask = CHEAP[random.nextInt(CHEAP.length)];
+        int[] range = ranges(ask);
+        int[] n = new int[3];
+        for (int i = 0; i < 3; i++) n[i] = range[2 * i] + random.nextInt(range[2 * i + 1] - range[2 * i] + 1);
+        ask((String) ask[0], n[0], n[1], n[2]);
     }
 
     private void askAll() {
         for (Object[] ask : CHEAP) {
-            int[] range = new int[6];
-            for (int i = 1; i < ask.length; i++) range[i - 1] = (Integer) ask[i];
+            int[] range = ranges(ask);
             for (int a = range[0]; a <= range[1]; a++) {
                 for (int b = range[2]; b <= range[3]; b++) {
                     for (int c = range[4]; c <= range[5]; c++) ask((String) ask[0], a, b, c);
@@ -171,6 +211,8 @@ public final class RandomRunsTest {
     }
 
     private void ask(String name, int a, int b, int c) {
+        if (used == MOST_CALLS) replace();
+        used++;
         compare(name + "(" + a + "," + b + "," + c + ")", Calls.ask(x, name, a, b, c), model.ask(name, a, b, c));
     }
 

@@ -1,5 +1,6 @@
 import java.util.ArrayList;
 import java.util.List;
+import java.util.function.Supplier;
 
 /** Promises 26, 27, 67 to 70: STEPS that are taken back, figures, THE IMAGE. */
 public final class StepsPromisesTest {
@@ -103,14 +104,19 @@ public final class StepsPromisesTest {
         {"longest", "3"}, {"pendingFor", "3", "16"}, {"clock", "3"}, {"timed", "12", "4"}, {"first"},
         {"program", "3", "24", "3"}, {"till"}, {"waits", "3"}, {"plainHeard", "9"}, {"share"}};
 
-    private static List<Long> allAnswers(GuestLevels x) {
+    /** All answers of an object; each object is asked some 300 times, then another one like it. */
+    private static List<Long> allAnswers(Supplier<GuestLevels> made) {
         List<Long> answers = new ArrayList<>();
+        GuestLevels x = made.get();
         for (String[] ask : ASKED) {
             int[] most = {1, 1, 1};
             for (int i = 1; i < ask.length; i++) most[i - 1] = Integer.parseInt(ask[i]);
             for (int a = 0; a < most[0]; a++) {
                 for (int b = 0; b < most[1]; b++) {
-                    for (int c = 0; c < most[2]; c++) answers.add(Calls.ask(x, ask[0], a, b, c));
+                    for (int c = 0; c < most[2]; c++) {
+                        if (answers.size() % 300 == 299) x = made.get();
+                        answers.add(Calls.ask(x, ask[0], a, b, c));
+                    }
                 }
             }
         }
@@ -154,24 +160,36 @@ public final class StepsPromisesTest {
             "enter", "send 1 14", "send 2 14", "open 1 0", "open 2 0", "finish", "hand 1", "hand 2",
             "scale 1 64 1", "scale 2 64 1", "timer 2 900 9", "cancel 0", "handler 8 0", "slice 50", "forget",
             "pass 30", "act 1 5 0 0", "act 2 5 0 0", "wipe 1", "wipe 2", "run 1", "run 40", "run 200"};
+        List<Long> ahead = allAnswers(StepsPromisesTest::usedInLevel1);
+        int steps = usedInLevel1().steps();
         for (String telling : tellings) {
-            GuestLevels x = used();
-            for (int i = 0; i < 4 && x.is(0) == 2; i++) x.pass(2);
-            List<Long> ahead = allAnswers(x);
-            int steps = x.steps();
-            x.image();
-            String[] words = telling.split(" ");
-            int[] n = new int[4];
-            for (int i = 1; i < words.length; i++) n[i - 1] = Integer.parseInt(words[i]);
-            Calls.tell(x, words[0], n[0], n[1], n[2], n[3]);
+            GuestLevels x = usedInLevel1();
+            Calls.tell(x, telling);
             Due.is("26 " + telling + " is taken back", x.undo(), Math.min(steps, 19));
-            Due.yes("26 all is as ahead of " + telling, ahead.equals(allAnswers(x)));
-            Calls.tell(x, words[0], n[0], n[1], n[2], n[3]);
-            x.pass(1);
-            x.back();
-            Due.yes("69 all is so again behind " + telling, ahead.equals(allAnswers(x)));
-            Due.is("69 STEPS", x.steps(), steps);
+            Due.yes("26 all is as ahead of " + telling, ahead.equals(allAnswers(() -> {
+                GuestLevels y = usedInLevel1();
+                Calls.tell(y, telling);
+                y.undo();
+                return y;
+            })));
+            Due.yes("69 all is so again behind " + telling, ahead.equals(allAnswers(() -> toldAndBack(telling))));
+            Due.is("69 STEPS", toldAndBack(telling).steps(), steps);
         }
+    }
+
+    private static GuestLevels usedInLevel1() {
+        GuestLevels x = used();
+        for (int i = 0; i < 4 && x.is(0) == 2; i++) x.pass(2);
+        return x;
+    }
+
+    private static GuestLevels toldAndBack(String telling) {
+        GuestLevels x = usedInLevel1();
+        x.image();
+        Calls.tell(x, telling);
+        x.pass(1);
+        x.back();
+        return x;
     }
 
     private static void everyStep() {
@@ -282,9 +300,11 @@ public final class StepsPromisesTest {
         x.act(2, 3, 0, 0);
         x.act(2, 3, 1, 0);
         x.act(2, 3, 1, 0);
-        for (int i = 0; i < 400; i++) {
+        for (int i = 0; i < 100; i++) {
             x.run(1 + i % 7);
-            double share = x.is(5) + x.is(6) == 0 ? 0.0 : (double) x.is(5) / (double) (x.is(5) + x.is(6));
+            int host = x.is(5);
+            int all = host + x.is(6);
+            double share = all == 0 ? 0.0 : (double) host / (double) all;
             Due.is("67 its bits", x.share(), Double.doubleToLongBits(share));
             if (i % 3 == 0) x.want(0, i % 9 == 0 ? 0 : 2);
         }

@@ -13,6 +13,7 @@ public final class TimePromisesTest {
         forget();
         pass();
         passToTheEnd();
+        neverDueAtTheEnd();
         passDealsOut();
         timersInOrder();
         timed();
@@ -179,12 +180,10 @@ public final class TimePromisesTest {
     }
 
     private static void passToTheEnd() {
-        GuestLevels x = new GuestLevels();
-        for (int i = 0; i < 499; i++) x.pass(200);
+        GuestLevels x = Made.late();
         Due.is("27 TIME", x.is(1), 99800);
         Due.is("22 above 99999", x.pass(200), -1);
         Due.is("25 above 99999", x.run(200), -1);
-        Due.is("60 above 99999", x.foretold(200, 1), -1);
         Due.is("22 to 99998", x.pass(198), 0);
         x.timer(0, 5, 5);
         Due.is("57 DUE at 99999", x.timed(0, 3), 99999);
@@ -193,10 +192,16 @@ public final class TimePromisesTest {
         Due.is("27 the last TIME", x.is(1), 99999);
         Due.is("22 one more", x.pass(1), -1);
         Due.is("25 one more", x.run(1), -1);
+        Due.is("61 none", x.till(), -1);
+    }
+
+    private static void neverDueAtTheEnd() {
+        GuestLevels x = Made.late();
+        Due.is("60 above 99999", x.foretold(200, 1), -1);
+        x.pass(199);
         x.timer(0, 5, 5);
         Due.is("57 never DUE", x.timed(0, 3), -1);
         Due.is("58 none", x.first(), -1);
-        Due.is("61 none", x.till(), -1);
     }
 
     private static void passDealsOut() {
