@@ -9,6 +9,7 @@ public final class ForetoldEdgesTest {
         foretoldWhat();
         foretoldAsGone();
         foretoldAtTheEnd();
+        tillTheEnd();
         till();
         tillTwoHundred();
         tillTheFirst();
@@ -120,6 +121,27 @@ public final class ForetoldEdgesTest {
         Due.is("62 none behind 99999", x.waits(1), -1);
         Due.is("63 above 99999", x.roomiest(1), -1);
         Due.is("64 PLAINLY no TIME goes on", x.plainly(200, 0), 0);
+    }
+
+    /** TIME is 99999 at most, so no GONE is behind that. */
+    private static void tillTheEnd() {
+        GuestLevels x = Made.late();
+        x.pass(198);
+        x.slice(1);
+        x.enter();
+        Due.is("61 at 99999", x.till(), 1);
+        x.undo();
+        x.slice(2);
+        x.enter();
+        Due.is("61 it would be at 100000", x.till(), -1);
+        GuestLevels y = Made.late();
+        y.pass(198);
+        y.open(1, true);
+        y.timer(1, 99999, 0);
+        Due.is("62 at 99999", y.waits(1), 1);
+        y.cancel(0);
+        y.timer(1, 100000, 0);
+        Due.is("62 it would be at 100000", y.waits(1), -1);
     }
 
     /** 61: "in how many times GONE (200 at most) an EXIT is dealt to the outer guest first. NONE: in none of these." */

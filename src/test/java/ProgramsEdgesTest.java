@@ -39,6 +39,10 @@ public final class ProgramsEdgesTest {
         stepEnded();
         stepWiped();
         stepsAreTakenBack();
+        stepsTakeBackTheLatestOf24();
+        stepsTakeBackSince();
+        stepsTakeBackTrapped();
+        stepsTakeBackReason1();
         Due.end();
     }
 
@@ -675,5 +679,87 @@ public final class ProgramsEdgesTest {
         Due.is("26 then an ACT", x.undo(), 2);
         Due.is("59 ACTS of (2)", x.program(2, -1, 0), 0);
         Due.is("59 ACTS of (1)", x.program(1, -1, 0), 2);
+    }
+
+    /** The eldest of 24 that went for a twenty-fifth is there again. */
+    private static void stepsTakeBackTheLatestOf24() {
+        GuestLevels x = Made.straight(10);
+        for (int i = 0; i < 24; i++) x.touch(i % 10, 0, 0);
+        x.touch(9, 0, 0);
+        Due.is("36 the eldest", x.heard(0), 11);
+        x.undo();
+        Due.is("36 the eldest again", x.heard(0), 0);
+        Due.is("36 the latest again", x.heard(23), 33);
+        GuestLevels y = new GuestLevels();
+        Made.exits(y, 24);
+        y.event(6);
+        Due.is("45 the eldest", y.exit(0, 2), 1);
+        y.undo();
+        Due.is("45 the eldest again", y.exit(0, 2), 0);
+        Due.is("45 the latest again", y.exit(23, 2), 7);
+        Due.is("45 twenty-four", y.exit(-1, 0), 24);
+        Due.is("27 COUNTED", y.is(5), 24);
+    }
+
+    private static void stepsTakeBackSince() {
+        for (int guest = 1; guest <= 2; guest++) {
+            GuestLevels x = new GuestLevels();
+            x.send(guest, 4);
+            x.pass(5);
+            x.image();
+            x.open(guest, true);
+            if (guest == 2) x.enter();
+            x.finish();
+            x.open(guest, false);
+            if (guest == 2) Made.leave(x);
+            int steps = x.steps();
+            x.send(guest, 4);
+            Due.is("55 anew", x.pendingFor(guest, 4), 0);
+            for (int i = steps; i >= 2; i--) x.undo();
+            Due.is("55 taken back: since it came to be so", x.pendingFor(guest, 4), 5);
+            x.open(guest, true);
+            x.back();
+            Due.is("55 so again", x.pendingFor(guest, 4), 5);
+            x.open(guest, true);
+            if (guest == 2) x.enter();
+            Due.is("54 LONGEST", x.longest(guest), 5);
+        }
+    }
+
+    private static void stepsTakeBackTrapped() {
+        GuestLevels x = Made.entered();
+        for (int page = 10; page < 13; page++) x.act(2, 0, page, 0);
+        x.run(2);
+        x.image();
+        Due.is("35 the PLACE", x.trapped(1), 1);
+        x.run(1);
+        Due.is("35 the next PLACE", x.trapped(1), 2);
+        x.undo();
+        Due.is("35 taken back: the PLACE", x.trapped(1), 1);
+        Due.is("35 taken back: the VIRTUAL PAGE", x.trapped(0), 11);
+        x.run(2);
+        x.back();
+        Due.is("35 so again: the PLACE", x.trapped(1), 1);
+        Due.is("35 so again: the VIRTUAL PAGE", x.trapped(0), 11);
+    }
+
+    private static void stepsTakeBackReason1() {
+        GuestLevels x = Made.entered();
+        x.entry(0, 0, 3, 7);
+        x.entry(0, 1, 4, 7);
+        x.touch(0, 0, 0);
+        x.enter();
+        x.touch(1, 0, 0);
+        x.undo();
+        x.undo();
+        x.act(1, 9, 8, 0);
+        x.act(1, 6, 0, 0);
+        x.act(2, 0, 0, 0);
+        x.act(2, 0, 1, 0);
+        Due.is("60 INNER PAGE 3 is told: the host sees the EXIT", x.foretold(3, 5), 1);
+        Due.is("60 only the first was dealt", x.foretold(3, 6), 1);
+        x.run(1);
+        Due.is("28 INNER PAGE 3", x.told(1, 3, 0), 8);
+        Due.is("28 not INNER PAGE 4", x.told(1, 4, 0), -1);
     }
 }

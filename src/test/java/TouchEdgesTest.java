@@ -27,6 +27,7 @@ public final class TouchEdgesTest {
         givenTheLowest();
         givenAllRights();
         swappedAtTen();
+        swappedLeadsNowhere();
         swappedWithSharedFrames();
         givenWhatIsStored();
         joinedNone();
@@ -441,6 +442,24 @@ public final class TouchEdgesTest {
         Due.is("32 not STORED by clear", x.stored(4), -1);
     }
 
+    /** "the ENTRY .. is gone": nothing leads there any more. */
+    private static void swappedLeadsNowhere() {
+        GuestLevels x = new GuestLevels();
+        for (int p = 0; p < 10; p++) x.touch(p, 0, 0);
+        x.entry(1, 5, 0, 7);
+        x.enter();
+        x.entry(0, 3, 5, 7);
+        Due.is("38 ahead", x.walk(3, 0), 0);
+        Made.leave(x);
+        x.touch(10, 0, 0);
+        Due.is("38 TABLE 2 has no ENTRY", x.walk(3, 0), -4);
+        Due.is("39 no RIGHTS", x.given(3), 0);
+        Due.is("40 not LAZY", x.lazy(), 0);
+        Due.is("41 not at its FRAME", x.aliases(0), 0);
+        Due.is("33 the next one is the first", x.backed(0), 1);
+        Due.is("33 ten yet", x.backed(9), 10);
+    }
+
     /** The same, when others lead to the FRAME of the one that goes. */
     private static void swappedWithSharedFrames() {
         GuestLevels x = new GuestLevels();
@@ -667,6 +686,17 @@ public final class TouchEdgesTest {
             Due.is("28 FRAME by RIGHTS " + rights, x.told(2, 15, 0), parts ? 0 : 2);
             Due.is("28 FOLDED by RIGHTS " + rights, x.told(3, 4, 1), parts ? 7 : -1);
         }
+        GuestLevels z = copies(7, 7);
+        z.clear(2, 0);
+        z.entry(1, 4, 15, 7);
+        z.entry(1, 6, 15, 7);
+        z.foldAhead();
+        z.enter();
+        z.entry(0, 1, 4, 7);
+        Due.is("9 alone at its FRAME", z.touch(1, 1, 9), 9);
+        Due.is("28 FOLDED anew", z.told(3, 4, 1), 7);
+        Due.is("28 FOLDED of the other INNER PAGE no more", z.told(3, 6, 1), -1);
+        Due.is("34 no COPIED ONE", z.copied(), 0);
         GuestLevels y = copies(7, 7);
         y.entry(1, 4, 15, 5);
         y.enter();
