@@ -85,7 +85,7 @@ public final class RandomRunsTest {
 
     private int page() {
         int kind = random.nextInt(20);
-        return kind == 0 ? random.nextInt(20) - 2 : random.nextInt(kind < 5 ? 16 : commonPages);
+        return kind == 0 ? random.nextInt(20) - 2 + wild() : random.nextInt(kind < 5 ? 16 : commonPages);
     }
 
     private void tellOne(int kind) {
@@ -139,8 +139,13 @@ public final class RandomRunsTest {
     }
 
     private int wild() {
-        int kind = random.nextInt(30);
-        return kind == 0 ? 3 : kind == 1 ? -3 : 0;
+        switch (random.nextInt(60)) {
+            case 0: case 1: return 3;
+            case 2: case 3: return -3;
+            case 4: return Integer.MAX_VALUE - 2;
+            case 5: return Integer.MIN_VALUE;
+            default: return 0;
+        }
     }
 
     private int value() {
@@ -183,7 +188,11 @@ public final class RandomRunsTest {
         int[] range = ranges(ask);
         int[] n = new int[3];
         for (int i = 0; i < 3; i++) n[i] = range[2 * i] + random.nextInt(range[2 * i + 1] - range[2 * i] + 1);
-        ask((String) ask[0], n[0], n[1], n[2]);
+        if (random.nextInt(20) == 0) {
+            askFarOff((String) ask[0], n[0], n[1], n[2]);
+        } else {
+            ask((String) ask[0], n[0], n[1], n[2]);
+        }
     }
 
     private void askAll() {
@@ -208,6 +217,13 @@ public final class RandomRunsTest {
             case "due": for (int i = 0; i < 12; i++) ask("timed", i, 3, 0); break;
             default: ask(name, n, 0, 0); break;
         }
+    }
+
+    /** Seldom with one argument that is far off. */
+    private void askFarOff(String name, int a, int b, int c) {
+        int far = random.nextBoolean() ? Integer.MIN_VALUE : Integer.MAX_VALUE;
+        int which = random.nextInt(3);
+        ask(name, which == 0 ? far : a, which == 1 ? far : b, which == 2 ? far : c);
     }
 
     private void ask(String name, int a, int b, int c) {
